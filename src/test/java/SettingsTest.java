@@ -220,6 +220,13 @@ public final class SettingsTest {
         x.run(1);
         given(due, "ranks 9 8 7 6", x, 40, 30, 20, 10);
         due.gas("all given", x, 100, 100, 0, 0);
+        x = withGas(100);
+        x.rank(2, 60);
+        x.rank(5, 60);
+        x.rank(3, 30);
+        x.rank(2, 5);
+        x.run(1);
+        given(due, "ranks 2 5 3 2", x, 60, 5, 30, 5);
     }
 
     private static void userWithoutNeed(Due due) {
