@@ -2,65 +2,100 @@ import java.lang.reflect.Constructor;
 import java.lang.reflect.Field;
 import java.lang.reflect.Method;
 import java.lang.reflect.Modifier;
-import java.nio.charset.StandardCharsets;
-import java.nio.file.Files;
-import java.nio.file.Path;
+import java.util.ArrayList;
+import java.util.List;
 import java.util.Set;
 import java.util.TreeSet;
 
-/** The document's public face, and the rules of LANGUAGE.md that a program can look for. */
+/** "The public face": the class has what the document writes there, word by word, and no more. */
 public final class FaceTest {
-    private static final Set<String> FACE = Set.of(
-            "boolean kind(int,int,int)", "boolean start(int,int)", "boolean feed(int,int,int)",
-            "boolean rate(int,int)", "boolean bound(int)", "boolean room(int)", "int rank(int,int)",
-            "int run(int)", "long at(int)", "long given(int)", "long gone(int)", "long balance(int)",
-            "int acid()", "int sour(long)", "boolean load(int,int,int,int)", "int plan(int)",
-            "int planned(int)", "int serve()");
-    private static final String[] RULED_OUT = {
-        "->", "::", "try", "catch", "finally", "throw", "synchronized", "assert", "Exact(", "Object",
-        "System.nanoTime", "currentTimeMillis", "Random", "Thread", "protected", "static {", "double", "float"};
+    private static final int METHODS = 18;
 
     public static void main(String[] args) throws Exception {
         Due due = new Due();
-        due.same("NONE", DigesterRates.NONE, -1);
-        due.same("NONE is a constant", DigesterRates.class.getField("NONE").getModifiers(),
-                Modifier.PUBLIC | Modifier.STATIC | Modifier.FINAL);
-        due.same("the class", DigesterRates.class.getModifiers(), Modifier.PUBLIC | Modifier.FINAL);
-        methodsAreTheFace(due);
-        fieldsArePrivate(due, DigesterRates.class, true);
+        List<String> face = Project.javaBlocks(Project.document());
+        everyLineIsInTheSource(due, face);
+        classIsTheFaces(due);
+        fieldsAreTheFaces(due);
         constructorIsTheFaces(due);
-        for (Class<?> inside : DigesterRates.class.getDeclaredClasses()) {
-            due.yes(inside + " is static", Modifier.isStatic(inside.getModifiers()));
-            fieldsArePrivate(due, inside, false);
-        }
-        due.yes("at most twelve classes", DigesterRates.class.getDeclaredClasses().length <= 11);
-        textKeepsTheRules(due);
+        methodsAreTheFaces(due, face);
+        noPrivateMethodBearsAPublicName(due);
         due.end();
     }
 
-    private static void methodsAreTheFace(Due due) {
-        Set<String> found = new TreeSet<>();
-        Set<String> names = new TreeSet<>();
-        for (Method method : DigesterRates.class.getDeclaredMethods()) {
-            if (!Modifier.isPrivate(method.getModifiers())) {
-                found.add(told(method));
-                names.add(method.getName());
-            }
+    private static void everyLineIsInTheSource(Due due, List<String> face) throws Exception {
+        List<String> source = new ArrayList<>();
+        for (String line : Project.source()) {
+            source.add(line.strip());
         }
-        for (String method : FACE) {
-            due.yes(method + " is there", found.contains(method));
-        }
-        due.same("no more methods", found.size(), FACE.size());
-        for (Method method : DigesterRates.class.getDeclaredMethods()) {
-            if (Modifier.isPrivate(method.getModifiers())) {
-                due.no(method + " bears a public name", names.contains(method.getName()));
-            }
+        for (String line : face) {
+            // A constant ends with its value; all else that ends there has a body in the source.
+            String wanted = line.endsWith(");") ? line.substring(0, line.length() - 1) + " {" : line;
+            due.yes("the source has '" + wanted + "'", source.contains(wanted.strip()));
         }
     }
 
+    private static void classIsTheFaces(Due due) {
+        due.same("public final class", DigesterRates.class.getModifiers(), Modifier.PUBLIC | Modifier.FINAL);
+        due.yes("of no class above it", DigesterRates.class.getSuperclass() == Object.class);
+        due.same("of no interfaces", DigesterRates.class.getInterfaces().length, 0);
+    }
+
+    private static void fieldsAreTheFaces(Due due) throws Exception {
+        due.same("NONE", DigesterRates.NONE, -1);
+        due.same("NONE is a constant", DigesterRates.class.getField("NONE").getModifiers(),
+                Modifier.PUBLIC | Modifier.STATIC | Modifier.FINAL);
+        due.yes("NONE is an int", DigesterRates.class.getField("NONE").getType() == int.class);
+        for (Field field : DigesterRates.class.getDeclaredFields()) {
+            due.yes(field + " is private", field.getName().equals("NONE") || Modifier.isPrivate(field.getModifiers()));
+        }
+    }
+
+    private static void constructorIsTheFaces(Due due) {
+        Constructor<?>[] constructors = DigesterRates.class.getDeclaredConstructors();
+        due.same("one constructor", constructors.length, 1);
+        due.same("it is public", constructors[0].getModifiers(), Modifier.PUBLIC);
+        due.same("it takes nothing", constructors[0].getParameterCount(), 0);
+        due.same("it declares no exception", constructors[0].getExceptionTypes().length, 0);
+    }
+
+    private static void methodsAreTheFaces(Due due, List<String> face) {
+        Set<String> wanted = new TreeSet<>();
+        for (String line : face) {
+            if (line.endsWith(");") && !line.strip().equals("public DigesterRates();")) {
+                wanted.add(withoutNames(line.strip()));
+            }
+        }
+        due.same("methods of the document", wanted.size(), METHODS);
+        Set<String> found = new TreeSet<>();
+        for (Method method : DigesterRates.class.getDeclaredMethods()) {
+            if (!Modifier.isPrivate(method.getModifiers())) {
+                found.add(told(method));
+            }
+        }
+        for (String method : wanted) {
+            due.yes("the class has " + method, found.contains(method));
+        }
+        for (String method : found) {
+            due.yes("the document has " + method, wanted.contains(method));
+        }
+    }
+
+    /** "public int rank(int r, int need);" becomes "public int rank(int,int)". */
+    private static String withoutNames(String line) {
+        int open = line.indexOf('(');
+        StringBuilder text = new StringBuilder(line.substring(0, open + 1));
+        String between = "";
+        for (String parameter : line.substring(open + 1, line.indexOf(')')).split(", ")) {
+            text.append(between).append(parameter.split(" ")[0]);
+            between = ",";
+        }
+        return text.append(')').toString();
+    }
+
     private static String told(Method method) {
-        StringBuilder text = new StringBuilder();
-        text.append(method.getReturnType().getName()).append(' ').append(method.getName()).append('(');
+        StringBuilder text = new StringBuilder(Modifier.toString(method.getModifiers()));
+        text.append(' ').append(method.getReturnType().getName()).append(' ').append(method.getName()).append('(');
         String between = "";
         for (Class<?> type : method.getParameterTypes()) {
             text.append(between).append(type.getName());
@@ -69,36 +104,18 @@ public final class FaceTest {
         return text.append(')').toString();
     }
 
-    private static void fieldsArePrivate(Due due, Class<?> type, boolean isFace) {
-        int fields = 0;
-        for (Field field : type.getDeclaredFields()) {
-            boolean isNone = isFace && field.getName().equals("NONE");
-            due.yes(field + " is private", isNone || Modifier.isPrivate(field.getModifiers()));
-            if (Modifier.isStatic(field.getModifiers())) {
-                due.yes(field + " is final", Modifier.isFinal(field.getModifiers()));
-            } else {
-                fields++;
+    private static void noPrivateMethodBearsAPublicName(Due due) {
+        Set<String> names = new TreeSet<>();
+        for (Method method : DigesterRates.class.getMethods()) {
+            names.add(method.getName());
+        }
+        List<Class<?>> all = new ArrayList<>(List.of(DigesterRates.class.getDeclaredClasses()));
+        all.add(DigesterRates.class);
+        for (Class<?> each : all) {
+            for (Method method : each.getDeclaredMethods()) {
+                due.no(method + " bears a public name",
+                        !Modifier.isPublic(method.getModifiers()) && names.contains(method.getName()));
             }
-        }
-        due.yes(type + " has few fields", fields <= 20);
-    }
-
-    private static void constructorIsTheFaces(Due due) {
-        Constructor<?>[] constructors = DigesterRates.class.getDeclaredConstructors();
-        due.same("one constructor", constructors.length, 1);
-        due.yes("it is public", Modifier.isPublic(constructors[0].getModifiers()));
-        due.same("it takes nothing", constructors[0].getParameterCount(), 0);
-    }
-
-    private static void textKeepsTheRules(Due due) throws Exception {
-        String place = System.getProperty("digester.source", "src/main/java/DigesterRates.java");
-        String text = Files.readString(Path.of(place), StandardCharsets.ISO_8859_1);
-        for (String word : RULED_OUT) {
-            due.same("'" + word + "' in the text", text.indexOf(word), -1);
-        }
-        due.no("a package line", text.startsWith("package") || text.contains("\npackage"));
-        for (String line : text.split("\n")) {
-            due.yes(line, !line.startsWith("import ") || line.equals("import java.util.Arrays;"));
         }
     }
 }

@@ -40,17 +40,18 @@ public final class NewObjectTest {
     /** Rates and room are 0, the bound is 1000000000, and a kind is all part 3. */
     private static void firstSettings(Due due) {
         DigesterRates x = new DigesterRates();
-        for (int part = 0; part < 4; part++) {
-            x.start(part, 1000000);
+        // Twice, for a single millionth of once would be slowed to nothing.
+        for (int i = 0; i < 8; i++) {
+            x.start(i % 4, 1000000);
         }
         for (int kind = 0; kind < 4; kind++) {
-            due.yes("feed", x.feed(0, kind, 10));
+            due.yes("feed", x.feed(0, kind, 1000));
         }
         x.run(1);
-        due.parts("rates at first", x, 1000000, 1000000, 1000000, 1000040);
+        due.parts("rates at first", x, 2000000, 2000000, 2000000, 2004000);
         x.rate(2, 1000000);
         x.run(1);
-        // The bound at first: 1000 * 1000000 / 1000000000 is 1, so s is 999.
-        due.gas("bound and room at first", x, 999000, 0, 999000, 0);
+        // The bound at first: 1000 * 2000000 / 1000000000 is 2, so s is 998.
+        due.gas("bound and room at first", x, 1996000, 0, 1996000, 0);
     }
 }

@@ -9,6 +9,7 @@ public final class StuffTest {
         sharesAreThoseOfTheMinute(due);
         startTakesItsRange(due);
         startComesInAtOnce(due);
+        startTakesAllThatCallsBring(due);
         feedTakesItsRange(due);
         feedIsForMinutesToRun(due);
         feedTakesThirty(due);
@@ -122,10 +123,18 @@ public final class StuffTest {
         due.parts("before a minute", x, 1, 20, 300, 54000);
         due.same("came in", x.gone(0), 54321);
         due.same("the next minute is still 0", x.run(1), 1);
-        for (int i = 0; i < 480; i++) {
-            due.yes("start in many calls", x.start(1, 1000000));
+    }
+
+    /** As near to 1000000000 as 512 calls come. */
+    private static void startTakesAllThatCallsBring(Due due) {
+        for (int part = 0; part < 4; part++) {
+            DigesterRates x = new DigesterRates();
+            for (int i = 0; i < 510; i++) {
+                due.yes("start of part " + part, x.start(part, 1000000));
+            }
+            due.same("all of part " + part, x.at(part), 510000000);
+            due.same("came in", x.gone(0), 510000000);
         }
-        due.same("in many calls", x.at(1), 480000020);
     }
 
     private static void feedTakesItsRange(Due due) {

@@ -242,6 +242,12 @@ public final class TermsStuffTest {
             x.run(1);
             due.same("s of " + row[0] + " at first", x.at(1), row[1]);
         }
+        // With so much acid s is 500 already if the bound is less by two.
+        DigesterRates x = with(2, 499999999);
+        x.start(0, 1000);
+        x.rate(0, 1000000);
+        x.run(1);
+        due.same("s of 499999999 at first", x.at(1), 501);
     }
 
     /** Stuff that comes in counts to s; what becomes acid in the minute does not. */
@@ -266,6 +272,15 @@ public final class TermsStuffTest {
         y.start(0, 1000);
         y.run(1);
         due.parts("s is 0 in the minute after", y, 1000, 1000, 1000, 0);
+        DigesterRates z = new DigesterRates();
+        for (int part = 0; part < 3; part++) {
+            z.start(part, 500);
+            z.rate(part, 1000000);
+        }
+        z.bound(1000);
+        z.run(1);
+        due.parts("s is 500 for all three steps", z, 250, 500, 500, 0);
+        due.same("s is 500 for the gas", z.gone(1), 250);
     }
 
     private static void stepsGoByPartsAsTheyWereBefore(Due due) {
