@@ -311,9 +311,12 @@ public final class DigesterRates {
             return toGas;
         }
 
-        /** In thousandths. The bound is never below 1, so it divides. */
+        /** In thousandths. Grams are never below 0, so a bound above them divides, and leaves 1 or more. */
         private long speed() {
-            return Math.max(0L, THOUSAND - THOUSAND * grams[ACID] / slowingBound);
+            if (grams[ACID] >= slowingBound) {
+                return 0;
+            }
+            return THOUSAND - THOUSAND * grams[ACID] / slowingBound;
         }
 
         private long broken(int part, long speed) {
